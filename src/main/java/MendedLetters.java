@@ -1797,8 +1797,8 @@ public final class MendedLetters {
         int outside;
         final int[] saidWords = new int[MOST_TOKENS];
         /** The least cost from a TOKEN on, if it is taken so; FAR, if it can't be. */
-        private final int[] leastFrom = new int[(MOST_TOKENS + 1) * CHOICES];
-        private final int[] nextChoice = new int[(MOST_TOKENS + 1) * CHOICES];
+        private final int[] leastFrom = new int[MOST_TOKENS * CHOICES];
+        private final int[] nextChoice = new int[MOST_TOKENS * CHOICES];
 
         Sentence(Reading reading, Follows follows, Answers answers, int[] costs) {
             this.reading = reading;

@@ -6,6 +6,8 @@ public final class BestTest {
         promise11();
         promise22Order();
         promise22Edges();
+        promise22Many();
+        promise22Again();
         promise22Refusals();
         promise23();
         promise24();
@@ -71,6 +73,42 @@ public final class BestTest {
         Check.is("SPECK set", x.best(0, 1, 1), 8);
         Check.is("BLOT set", x.best(1, 0, 1), 9);
         Check.is("KEPT set", x.best(2, 1, 1), 7);
+    }
+
+    /** Many STATES wait at once, whose BOUNDS come in no order. */
+    private static void promise22Many() {
+        StringBuilder text = new StringBuilder();
+        int[] words = new int[52];
+        for (int i = 0; i < 52; i++) {
+            int weight = i * 31 % 53;
+            text.append((char) ('a' + i / 2)).append((char) ('a' + i * 7 % 26)).append(weight).append(';');
+            words[i] = weight;
+        }
+        MendedLetters x = Check.with(text.toString(), "", "??");
+        int weightBefore = -1;
+        for (int j = 0; j < 52; j++) {
+            int word = x.best(0, j, 0);
+            Check.is("PRICE of the " + j + "-th", x.best(0, j, 1), 8 + words[word]);
+            Check.is("it is above that ahead", words[word] > weightBefore, true);
+            weightBefore = words[word];
+        }
+        Check.is("no more", x.best(0, 52, 0), NONE);
+        Check.is("all were OPENED: the first one, a to z, and the ends of all", x.best(0, 51, 2), 1 + 26 + 52);
+    }
+
+    /** What was asked does not stay, when something is told behind it. */
+    private static void promise22Again() {
+        MendedLetters x = Check.with("ab; bb 3;", "", "a?");
+        Check.is("at first", Check.bestOf(x, 0), "0:4:3");
+        Check.lexicon(x, "aa 1;");
+        Check.is("with a WORD more", Check.bestOf(x, 0), "0:4:3 2:5:4");
+        Check.shapes(x, "a=b 1;");
+        Check.is("with a SHAPE", Check.bestOf(x, 0), "0:4:3 2:5:4 1:8:6");
+        Check.is("and WORDS from one another", x.apart(0, 1), 1);
+        Check.is("and again", Check.bestOf(x, 0), "0:4:3 2:5:4 1:8:6");
+        Check.is("and again", x.apart(2, 0), 1);
+        Check.reading(x, "aa");
+        Check.is("with another READING", Check.bestOf(x, 0), "0:1:3 2:1:4 1:5:6");
     }
 
     private static String bestOf(String lexicon, String shapes, String reading) {

@@ -82,6 +82,19 @@ public final class SentenceTest {
         w.set(6, 1);
         Check.follows(w, "a a 3; a b 0; b a 0;");
         sentence(w, 1, 1, 0, 0, 1);
+        MendedLetters v = Check.with("x; a; b;", "", "x a[b1]");
+        v.set(6, 1);
+        Check.follows(v, "x b 0;");
+        sentence(v, 1, 0, 0, 0, 1);
+        // forty TOKENS
+        MendedLetters u = Check.with("a; b;", "", "a[b1] ".repeat(40));
+        u.set(6, 2);
+        Check.follows(u, "a b 0; b a 0;");
+        int[] said = new int[40];
+        for (int token = 1; token < 40; token += 2) {
+            said[token] = 1;
+        }
+        sentence(u, 20, 20, 0, said);
     }
 
     private static void promise34() {

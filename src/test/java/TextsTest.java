@@ -99,6 +99,9 @@ public final class TextsTest {
         fault("a- ;", 1, 2);
         fault("a-3;", 1, 2);
         fault("cat\n;", 1, 3);
+        fault("{;", 1, 0);
+        fault("`;", 1, 0);
+        fault("az{;", 1, 2);
         fault("cat 100;", 2, 4);
         fault("cat 4294967297;", 2, 4);
         fault("cat 99999999999999999999999;", 2, 4);
@@ -117,6 +120,12 @@ public final class TextsTest {
         Check.is("its place", x.fault(), 5);
         Check.is("all stays", x.told(0), 1);
         Check.is("all stays", x.told(1), 4);
+        Check.feed(x, "cow    ;");
+        Check.is("blanks behind the text are none of it", x.lexicon(3), -9);
+        Check.is("its place", x.fault(), 3);
+        Check.feed(x, "cow 123;");
+        Check.is("digits behind the text are none of it", x.lexicon(6), -9);
+        Check.is("its place", x.fault(), 6);
         Check.is("a 00..0 in front", Check.lexicon(x, "dog 00000000000000000000099;"), 2);
         tooManyWords();
     }
@@ -127,6 +136,8 @@ public final class TextsTest {
         for (int i = 0; i < 60; i++) {
             text.append((char) ('a' + i / 26)).append((char) ('a' + i % 26)).append(';');
         }
+        Check.is("61 WORDS", Check.lexicon(x, text + "zz;"), -7);
+        Check.is("the 61st", x.fault(), 180);
         Check.is("60 WORDS", Check.lexicon(x, text.toString()), 60);
         Check.is("blanks alone", Check.lexicon(x, "   "), 60);
         Check.is("a 61st", Check.lexicon(x, "  zz;"), -7);

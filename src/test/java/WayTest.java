@@ -40,6 +40,10 @@ public final class WayTest {
         Check.missing(x, "edge(1, 0, 9) of OUTSIDE", () -> x.edge(1, 0, 9));
         Check.missing(x, "edge(3, 0, 0)", () -> x.edge(3, 0, 0));
         Check.missing(x, "edge(-1, 0, 0)", () -> x.edge(-1, 0, 0));
+        MendedLetters z = Check.with("abcdefghijkl;", "", "a-b-c-d-e-f-g-h-i-j-k-l-");
+        z.set(3, 1);
+        way(z, 0, 24, 12);
+        Check.is("the last of 24", z.edge(0, 23, 1), 24);
         MendedLetters y = Check.with("zab;", "", "-z-\na?");
         Check.is("EDGES without SIGNS", Check.edgesOf(y, 0), "0-1/3/0/-1 1-2/0/1/-1 2-3/0/0/-1 3-4/0/1/-1 4-5/4/1/-1");
     }
