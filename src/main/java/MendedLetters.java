@@ -80,7 +80,7 @@ public final class MendedLetters {
         costs = FIRST_COSTS.clone();
         net = new Net(lexicon, shapes, reading, costs);
         answers = new Answers(new Search(lexicon, net), reading, costs);
-        mendedText = new MendedText(lexicon, reading, answers, costs);
+        mendedText = new MendedText(lexicon, reading, answers);
         theSentence = new Sentence(reading, follows, answers, costs);
         theWay = new Way(net, lexicon);
     }
@@ -1681,7 +1681,6 @@ public final class MendedLetters {
         private final Lexicon lexicon;
         private final Reading reading;
         private final Answers answers;
-        private final int[] costs;
         boolean made;
         int length;
         int prices;
@@ -1691,11 +1690,10 @@ public final class MendedLetters {
         final boolean[] lostWithNext = new boolean[MOST_TOKENS];
         private final int[] leastFrom = new int[MOST_TOKENS + 2];
 
-        MendedText(Lexicon lexicon, Reading reading, Answers answers, int[] costs) {
+        MendedText(Lexicon lexicon, Reading reading, Answers answers) {
             this.lexicon = lexicon;
             this.reading = reading;
             this.answers = answers;
-            this.costs = costs;
         }
 
         void make() {
@@ -1749,7 +1747,7 @@ public final class MendedLetters {
                 lostWithNext[token + 1] = false;
                 return token + 1;
             }
-            int word = answers.mendedWord(token);
+            int word = answers.wordInside(token, 0);
             if (word == NONE) {
                 outside++;
                 writeCells(token);

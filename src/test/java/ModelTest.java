@@ -66,10 +66,26 @@ public final class ModelTest {
     /** Near the document's limits; what the model answers by trying all ways is asked for a few TOKENS alone. */
     private void runLarge(int seed) {
         told.append("large seed ").append(seed).append('\n');
-        for (int i = 0; i < 12; i++) {
-            tell("lexicon", many(this::lexiconText, 200));
+        java.util.Set<String> all = new java.util.TreeSet<>();
+        int count = 20 + random.nextInt(41);
+        int longest = 4 + random.nextInt(9);
+        for (int i = 0; i < 2000 && all.size() < count; i++) {
+            all.add(fewLetters(1 + random.nextInt(longest)));
         }
-        tell("shapes", many(this::shapesText, 300));
+        words.addAll(all);
+        java.util.Collections.shuffle(words, random);
+        for (int i = 0; i < words.size(); i += 15) {
+            StringBuilder text = new StringBuilder();
+            words.subList(i, Math.min(i + 15, words.size())).forEach(w -> text.append(w).append(random.nextInt(12)).append(';'));
+            tell("lexicon", text.toString());
+        }
+        StringBuilder parts = new StringBuilder();
+        for (int i = random.nextInt(30); i > 9; i--) {
+            String first = fewLetters(1 + random.nextInt(3));
+            String second = fewLetters(1 + random.nextInt(3));
+            parts.append(first.equals(second) ? "" : first + "=" + second + (1 + random.nextInt(9)) + ";");
+        }
+        tell("shapes", parts.toString());
         tell("reading", many(this::longToken, 380));
         int tokens = mended.told(3);
         for (int token = 0; token < tokens; token++) {
@@ -112,13 +128,22 @@ public final class ModelTest {
         return text.toString();
     }
 
+    private String fewLetters(int length) {
+        StringBuilder text = new StringBuilder();
+        for (int k = 0; k < length; k++) {
+            text.append("aabbc".charAt(random.nextInt(5)));
+        }
+        return text.toString();
+    }
+
     private String longToken() {
         StringBuilder text = new StringBuilder();
         int length = 1 + random.nextInt(24);
-        String word = words.isEmpty() ? "a" : words.get(random.nextInt(words.size()));
+        int plain = 2 + random.nextInt(8);
+        String word = words.get(random.nextInt(words.size()));
         for (int k = 0; k < length; k++) {
-            int kind = random.nextInt(6);
-            text.append(kind == 0 ? '?' : kind == 1 ? '-' : k < word.length() ? word.charAt(k) : letter());
+            int kind = random.nextInt(plain);
+            text.append(kind == 0 ? "?" : kind == 1 ? "-" : k < word.length() ? word.substring(k, k + 1) : fewLetters(1));
         }
         return text + " ";
     }
