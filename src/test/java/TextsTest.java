@@ -211,6 +211,9 @@ public final class TextsTest {
         Check.is("cost", x.shape(0, 0), 99);
         Check.is("parts of unlike length", Check.shapes(x, "a=aa;aa=a;"), 2);
         Check.is("a shape told twice", Check.shapes(x, "a=b 1;a=b 1;"), 2);
+        Check.is("parts unlike at the end", Check.shapes(x, "abx=aby;abc=abd;"), 2);
+        Check.is("parts alike, where unlike ones stood", Check.shapes(x, "ab=ab;"), -9);
+        Check.is("they stay", x.told(2), 2);
         Check.feed(x, "a=c;");
         Check.illegal(x, "shapes(-1)", () -> x.shapes(-1));
         Check.illegal(x, "shapes(21)", () -> x.shapes(21));
