@@ -26,7 +26,7 @@ public final class ModelTest {
     }
 
     public static void main(String[] args) {
-        int runs = args.length > 0 ? Integer.parseInt(args[0]) : 400;
+        int runs = args.length > 0 ? Integer.parseInt(args[0]) : 1000;
         int first = args.length > 1 ? Integer.parseInt(args[1]) : 0;
         for (int seed = first; seed < first + runs; seed++) {
             new ModelTest(seed).run(seed);
