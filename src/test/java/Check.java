@@ -1,5 +1,6 @@
 import java.util.NoSuchElementException;
 import java.util.function.IntSupplier;
+import java.util.function.IntUnaryOperator;
 
 /** What the tests share: texts put on the TAPE, answers held against those that are due. */
 final class Check {
@@ -85,6 +86,126 @@ final class Check {
     static int follows(MendedLetters x, String text) {
         feed(x, text);
         return x.follows(text.length());
+    }
+
+    /** Tells a text of a kind by its name. */
+    static int tell(MendedLetters x, String kind, String text) {
+        feed(x, text);
+        switch (kind) {
+            case "lexicon":
+                return x.lexicon(text.length());
+            case "shapes":
+                return x.shapes(text.length());
+            case "reading":
+                return x.reading(text.length());
+            default:
+                return x.follows(text.length());
+        }
+    }
+
+    /** A text that is told: how many there are then, and no FAULT. */
+    static void fine(MendedLetters x, String kind, String text, int count) {
+        told(x, kind, text, count, MendedLetters.NONE);
+    }
+
+    /** A text that has a FAULT: its number and its place; all stays but the TAPE, which is empty. */
+    static void fault(MendedLetters x, String kind, String text, int number, int place) {
+        String before = state(x);
+        told(x, kind, text, number - 10, place);
+        is("what stays behind " + kind + shown(text), state(x), before);
+    }
+
+    private static void told(MendedLetters x, String kind, String text, int answer, int place) {
+        int missing = x.status(0);
+        int illegal = x.status(1);
+        String call = kind + shown(text);
+        is(call, tell(x, kind, text), answer);
+        is("fault() behind " + call, x.fault(), place);
+        is("the TAPE behind " + call, x.told(11), 0);
+        is("status(0) behind " + call, x.status(0), missing);
+        is("status(1) behind " + call, x.status(1), illegal);
+    }
+
+    static String shown(String text) {
+        StringBuilder all = new StringBuilder(" \"");
+        for (int i = 0; i < text.length(); i++) {
+            char one = text.charAt(i);
+            all.append(one >= 32 && one < 127 ? String.valueOf(one) : "\\" + (int) one);
+        }
+        return all.append('"').toString();
+    }
+
+    /** From a least to a most the call answers; one below, one beyond and the farthest ones are no such elements. */
+    static void elements(MendedLetters x, String call, IntUnaryOperator asking, int least, int most) {
+        inside(x, call, asking, least, most);
+        for (int one : beyond(least, most)) {
+            String before = state(x);
+            missing(x, call + " of " + one, () -> asking.applyAsInt(one));
+            is("what stays behind " + call + " of " + one, state(x), before);
+        }
+    }
+
+    /** From a least to a most the call answers; one below, one beyond and the farthest ones are illegal. */
+    static void arguments(MendedLetters x, String call, IntUnaryOperator asking, int least, int most) {
+        inside(x, call, asking, least, most);
+        for (int one : beyond(least, most)) {
+            String before = state(x);
+            illegal(x, call + " of " + one, () -> asking.applyAsInt(one));
+            is("what stays behind " + call + " of " + one, state(x), before);
+        }
+    }
+
+    private static void inside(MendedLetters x, String call, IntUnaryOperator asking, int least, int most) {
+        int refused = x.status(0) + x.status(1);
+        for (int one : new int[] {least, Math.min(least + 1, most), Math.max(most - 1, least), most}) {
+            if (least <= most) {
+                String thrown = "nothing";
+                try {
+                    asking.applyAsInt(one);
+                } catch (NoSuchElementException | IllegalArgumentException e) {
+                    thrown = e.getClass().getSimpleName();
+                }
+                is(call + " of " + one + " throws", thrown, "nothing");
+            }
+        }
+        is("refusals behind " + call + " inside", x.status(0) + x.status(1), refused);
+    }
+
+    private static int[] beyond(int least, int most) {
+        return new int[] {least - 1, most + 1, Integer.MIN_VALUE, Integer.MAX_VALUE, least - 65536, most + 65536};
+    }
+
+    /** All that was told, as the calls show it: the costs, the TREE, SHAPES, the READING, FOLLOWS (of few WORDS). */
+    static String state(MendedLetters x) {
+        StringBuilder all = new StringBuilder();
+        for (int what = 0; what <= 12; what++) {
+            all.append(what == 11 ? 0 : x.told(what)).append(' ');
+        }
+        for (int word = 0; word < x.told(0); word++) {
+            for (int what = 0; what < 4; what++) {
+                all.append(x.word(word, what)).append(what < 3 ? "," : ";");
+            }
+            for (int next = 0; next < x.told(0) && x.told(0) < 6; next++) {
+                all.append(x.dear(word, next)).append(',');
+            }
+        }
+        for (int node = 0; node < x.told(1); node++) {
+            for (int what = 0; what < 6; what++) {
+                all.append(x.node(node, what)).append(what < 5 ? "," : ";");
+            }
+        }
+        for (int shape = 0; shape < x.told(2); shape++) {
+            all.append(x.shape(shape, 0)).append(x.shape(shape, 1)).append(x.shape(shape, 2)).append(';');
+        }
+        for (int token = 0; token < x.told(3); token++) {
+            for (int what = 0; what < 7; what++) {
+                all.append(x.token(token, what)).append(what < 6 ? "," : ";");
+            }
+            for (int cell = 0; cell < x.token(token, 0); cell++) {
+                all.append(x.cell(token, cell, 0)).append(',').append(x.cell(token, cell, 2)).append(';');
+            }
+        }
+        return all.toString();
     }
 
     static MendedLetters with(String lexicon, String shapes, String reading) {
