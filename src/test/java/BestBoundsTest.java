@@ -87,11 +87,18 @@ public final class BestBoundsTest {
         }
         Check.fine(x, "lexicon", text.toString(), 60);
         Check.reading(x, "??");
-        for (int j = 0; j < 60; j++) {
-            Check.is("best(0, " + j + ", 0)", x.best(0, j, 0), j);
-            Check.is("best(0, " + j + ", 1)", x.best(0, j, 1), 8 + j);
-            Check.is("within", x.within(0, 8 + j), j + 1);
-            Check.is("price", x.price(0, j), 8 + j);
+        // in order, backwards, and mixed, so that those that wait come in many orders
+        for (int step : new int[] {1, 59, 7, 13, 37, 41}) {
+            for (int word = 0; word < 60; word++) {
+                x.weigh(word, word * step % 60);
+            }
+            for (int word = 0; word < 60; word++) {
+                int j = word * step % 60;
+                Check.is("best(0, " + j + ", 0)", x.best(0, j, 0), word);
+                Check.is("best(0, " + j + ", 1)", x.best(0, j, 1), 8 + j);
+                Check.is("within", x.within(0, 8 + j), j + 1);
+                Check.is("price", x.price(0, word), 8 + j);
+            }
         }
         Check.is("best(0, 60, 0)", x.best(0, 60, 0), NONE);
         Check.is("within(0, 7)", x.within(0, 7), 0);
@@ -131,6 +138,25 @@ public final class BestBoundsTest {
         best("b;", "a=b 1; a=b 2; a=b 3;", "a[b4 b5 b6]", "0:1:2");
         best("cd;", "ab=cd 1; a=c 5; b=d 5;", "ab", "0:1:2");
         best("cd;", "a=c 1; b=d 1; ab=cd 9;", "ab", "0:2:3");
+        // it has the lesser COST among others that wait, once or twice, made less by one STATE or by a later one
+        best("c; b;", "", "a[c2 b3 b1]", "1:1:2 0:2:3");
+        best("b; c; d; e;", "a=b 9; a=c 8; a=d 7; a=e 6; a=b 1; a=d 2;", "a", "0:1:2 2:2:3 3:6:4 1:8:5");
+        best("b; c; d; e;", "a=e 9; a=d 8; a=c 7; a=b 6; a=e 5; a=e 1;", "a", "3:1:2 0:6:3 1:7:4 2:8:5");
+        best("xy; pq; rs;", "ab=xy 9; ab=pq 8; ab=rs 7; a=x 1; b=y 1;", "ab", "0:2:3 2:7:4 1:8:5");
+        best("xy; pq; rs; tu;", "ab=xy 20; ab=tu 19; ab=pq 8; ab=rs 7; a=x 1; b=y 3; a=t 2; b=u 3;", "ab",
+                "0:4:4 3:5:5 2:7:6 1:8:7");
+        // and the greater COST does not count, where a lesser one waits
+        best("b; c;", "a=b 1; a=c 2; a=b 3;", "a", "0:1:2 1:2:3");
+        // each TOKEN is counted from its own beginning on, and anew when something was told
+        MendedLetters z = Check.with("ab; cd;", "", "ab cd abc ab");
+        Check.is("OPENED of the second TOKEN", z.best(1, 0, 2), 3);
+        Check.is("OPENED of the first TOKEN", z.best(0, 0, 2), 3);
+        Check.is("none of the third", z.best(2, 0, 2), NONE);
+        Check.is("OPENED of the fourth", z.best(3, 0, 2), 3);
+        z.set(0, 30);
+        Check.is("OPENED anew", z.best(0, 0, 2), 3);
+        Check.is("apart", z.apart(0, 1), NONE);
+        Check.is("OPENED anew", z.best(1, 0, 2), 3);
         // asked for the last one first: it is as it was taken, whoever asks when
         MendedLetters y = Check.with("a; b; c;", "", "?");
         Check.is("OPENED of the third", y.best(0, 2, 2), 4);

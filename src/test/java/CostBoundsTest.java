@@ -136,15 +136,17 @@ public final class CostBoundsTest {
     private static void setCounts() {
         MendedLetters x = Check.with("ab; a-b; axb;", "", "a?b a-b a-\nb q\nq");
         for (int v : new int[] {0, 1, 99}) {
-            x.set(2, v);
-            Check.is("BLOT", x.price(0, 2), v);
-            x.set(3, v);
-            Check.is("SPECK", x.price(1, 0), v);
-            x.set(4, v);
-            Check.is("KEPT", x.price(2, 1), v);
-            Check.is("apart by a SPECK", x.apart(1, 0), v);
-            x.set(6, v);
-            Check.is("STRANGE", x.dear(0, 1), v);
+            // one at a time: the others are 7
+            for (int what = 2; what <= 6; what++) {
+                for (int other = 2; other <= 6; other++) {
+                    x.set(other, other == what ? v : 7);
+                }
+                Check.is("BLOT", x.price(0, 2), what == 2 ? v : 7);
+                Check.is("SPECK", x.price(1, 0), what == 3 ? v : 7);
+                Check.is("apart by a SPECK", x.apart(1, 0), what == 3 ? v : 7);
+                Check.is("KEPT", x.price(2, 1), what == 4 ? v : 7);
+                Check.is("STRANGE", x.dear(0, 1), what == 6 ? v : 7);
+            }
         }
         MendedLetters y = Check.with("ab;", "", "a\nb");
         for (int v : new int[] {0, 43, 44, 99}) {

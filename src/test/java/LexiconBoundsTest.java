@@ -259,6 +259,15 @@ public final class LexiconBoundsTest {
         Check.fine(x, "lexicon", "a;b;", 2);
         Check.is("no FOLLOWS", x.dear(0, 1), 0);
         Check.is("weights", x.word(0, 1), 0);
+        // the TREE is as if there had never been others
+        String[] texts = {"abc 3;abd 4;ab 5;b 6;", "b;ba 2;", "z-z 9;", "abc;abd;abe;abf;a;b;c;d;"};
+        for (String text : texts) {
+            MendedLetters y = new MendedLetters();
+            Check.lexicon(y, text);
+            x.forget();
+            Check.lexicon(x, text);
+            Check.is("the TREE of " + text, Check.state(x), Check.state(y));
+        }
     }
 
     /** "WEIGHT (0 to 99)"; "NoSuchElementException: no such WORD .. (so below, ahead of others)". */
@@ -392,5 +401,24 @@ public final class LexiconBoundsTest {
         }
         Check.elements(x, "child(v, 97)", v -> x.child(v, 'a'), 0, 5);
         Check.is("no other refusals", x.status(1), 0);
+        mostChildren();
+    }
+
+    /** "each NODE has a CHILD for each sign with which a WORD goes on": 26 letters and "-" at most. */
+    private static void mostChildren() {
+        MendedLetters x = new MendedLetters();
+        StringBuilder text = new StringBuilder("x-x;");
+        for (char sign = 'a'; sign <= 'z'; sign++) {
+            text.append('x').append(sign).append(';');
+            Check.fine(x, "lexicon", text.toString(), sign - 'a' + 2);
+            text.setLength(0);
+            // NODES: x 1, - 2, x 3, then the letters
+            Check.is("CHILDREN", x.node(1, 4), sign - 'a' + 2);
+            Check.is("WORDS", x.node(1, 5), sign - 'a' + 2);
+        }
+        Check.is("the first CHILD", x.child(1, '-'), 2);
+        for (char sign = 'a'; sign <= 'z'; sign++) {
+            Check.is("CHILD by " + sign, x.child(1, sign), 4 + sign - 'a');
+        }
     }
 }

@@ -98,6 +98,17 @@ public final class MendedTextBoundsTest {
                 text(x, "a\nb", 44, 0, 2);
             }
         }
+        Check.reading(x, "a\nb-");
+        x.set(3, 0);
+        for (int weight = 25; weight <= 27; weight++) {
+            x.weigh(0, weight);
+            if (weight <= 26) {
+                text(x, "ab", weight, 1, 0);
+            } else {
+                text(x, "a\nb-", 46, 0, 2);
+            }
+        }
+        Check.reading(x, "a\nb");
         // LOST itself does not count there
         x.set(5, 19);
         x.weigh(0, 24);

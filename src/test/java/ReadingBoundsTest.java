@@ -106,6 +106,12 @@ public final class ReadingBoundsTest {
         Check.is("their least", x.cell(0, 1, 2), 4);
         Check.fine(x, "reading", "a[a1 a1 a1]", 1);
         Check.is("others that are alike", x.cell(0, 0, 1), 3);
+        // of the last CELL of all that a TAPE can hold ahead of it
+        Check.fine(x, "reading", ("q".repeat(24) + " ").repeat(15) + "q".repeat(14) + "a[b7 c6 d5]", 16);
+        Check.is("others of the last CELL", x.cell(15, 14, 1), 3);
+        Check.is("their least cost", x.cell(15, 14, 2), 5);
+        Check.is("EDGES of the last TOKEN", x.token(15, 3), 14 + 4);
+        Check.is("others of the first CELL", x.cell(0, 0, 1), 0);
     }
 
     /** "at a cost of 1 to 99; one or more blanks between these, if there are more". */

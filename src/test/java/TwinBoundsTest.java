@@ -64,6 +64,15 @@ public final class TwinBoundsTest {
         Check.is("apart", x.apart(1, 0), NONE);
         Check.reading(x, "");
         Check.is("apart", x.apart(0, 1), 14);
+        // though all TOKENS were looked for, alone and two as LOST
+        MendedLetters y = Check.with("aa; ab; bb; ba;", "a=b 7;", "a\n".repeat(40));
+        Check.is("LOST", y.text(2), 20);
+        int[][] due = {{0, 7, 14, 7}, {NONE, 0, 7, NONE}, {NONE, NONE, 0, NONE}, {NONE, NONE, 7, 0}};
+        for (int word = 0; word < 4; word++) {
+            for (int other = 0; other < 4; other++) {
+                Check.is("apart(" + word + ", " + other + ")", y.apart(word, other), due[word][other]);
+            }
+        }
     }
 
     /** ""-" as a SPECK". */
