@@ -7,6 +7,7 @@ public final class BestBoundsTest {
         noWordsOrNoneThatCanBe();
         wordsOfUnlikeLength();
         sixtyBest();
+        letterOfABlot();
         alikeOnes();
         openedCounts();
         dearestPrice();
@@ -103,6 +104,16 @@ public final class BestBoundsTest {
         Check.is("best(0, 60, 0)", x.best(0, 60, 0), NONE);
         Check.is("within(0, 7)", x.within(0, 7), 0);
         Check.is("within(0, 9999)", x.within(0, 9999), 60);
+    }
+
+    /** "of a BLOT each letter a to z": no "-", and no more than one of them. */
+    private static void letterOfABlot() {
+        for (char letter = 'a'; letter <= 'z'; letter++) {
+            MendedLetters x = Check.with(letter + "; " + letter + letter + "; " + letter + "-" + letter + ";", "", "? ?? ???");
+            Check.is("? for " + letter, Check.bestOf(x, 0), "0:4:2");
+            Check.is("?? for " + letter, Check.bestOf(x, 1), "1:8:3");
+            Check.is("??? for " + letter, Check.bestOf(x, 2), "");
+        }
     }
 
     /** "of alike ones an ANSWER ahead of STATES (.. of the lesser WORD), of STATES the one of the greater place, ..". */

@@ -33,6 +33,7 @@ public final class ModelTest {
         }
         for (int seed = first; seed < first + runs / 10; seed++) {
             new ModelTest(seed).runLarge(seed);
+            new ModelTest(seed).runLimits(seed);
         }
         Check.end("ModelTest");
     }
@@ -114,6 +115,88 @@ public final class ModelTest {
             both("text", what);
             both("sentence", what);
         }
+    }
+
+    /** Texts that end just below, at or just beyond the most of each kind. */
+    private void runLimits(int seed) {
+        told.append("limits seed ").append(seed).append('\n');
+        for (int i = 0; i < 6; i++) {
+            tell("lexicon", limitLexicon());
+            tell("shapes", limitShapes());
+            tell("reading", limitReading());
+            tell("follows", limitFollows());
+            for (int what = 0; what < 13; what++) {
+                both("told", what);
+            }
+            for (int k = 0; k < 20; k++) {
+                both("word", near(mended.told(0)), near(4));
+                both("node", near(mended.told(1)), near(6));
+                both("shape", near(mended.told(2)), near(3));
+                both("token", near(mended.told(3)), near(7));
+                both("cell", near(mended.told(3)), near(25), near(3));
+                both("rest", near(mended.told(3)), near(26));
+                both("dear", near(mended.told(0)), near(mended.told(0)));
+            }
+            if (random.nextInt(3) == 0) {
+                both("forget");
+            }
+        }
+    }
+
+    private String limitLexicon() {
+        StringBuilder text = new StringBuilder(mended.told(0) == 0 ? "a;" : "");
+        int count = random.nextBoolean() ? 55 + random.nextInt(8) : random.nextInt(30);
+        int kind = random.nextInt(3);
+        for (int i = 0; i < count && text.length() < 380; i++) {
+            int one = random.nextInt(80) == 0 ? random.nextInt(i + 1) : i;
+            text.append((char) ('a' + one / 26)).append((char) ('a' + one % 26));
+            if (kind == 0 && random.nextInt(6) == 0) {
+                text.append("-bcdefghij".repeat(2), 0, 8 + random.nextInt(4));
+            }
+            text.append(random.nextInt(60) == 0 ? " " + (98 + random.nextInt(3)) : "").append(';');
+        }
+        return text.toString();
+    }
+
+    private String limitShapes() {
+        StringBuilder text = new StringBuilder();
+        int count = 17 + random.nextInt(5);
+        for (int i = 0; i < count; i++) {
+            int most = random.nextInt(30) == 0 ? 4 : 3;
+            text.append("abcd", 0, 1 + random.nextInt(most)).append('=');
+            text.append(random.nextInt(80) == 0 ? "abcd" : "bcde", 0, 1 + random.nextInt(most));
+            text.append(random.nextInt(3) == 0 ? " " + (random.nextInt(20) == 0 ? 100 * random.nextInt(2) : 99) : "").append(';');
+        }
+        return text.toString();
+    }
+
+    private String limitReading() {
+        StringBuilder text = new StringBuilder();
+        int count = 37 + random.nextInt(5);
+        int cells = random.nextBoolean() ? 1 : 22 + random.nextInt(4);
+        for (int i = 0; i < count && text.length() < 360; i++) {
+            int some = random.nextInt(4) == 0 ? cells : 1 + random.nextInt(3);
+            for (int k = 0; k < some && text.length() < 370; k++) {
+                int kind = random.nextInt(12);
+                text.append(kind == 0 ? "?" : kind == 1 ? "-" : kind == 2 ? "-\na" : "a");
+                if (kind == 3 && cells == 1) {
+                    int others = random.nextInt(100) == 0 ? 3 : random.nextInt(3);
+                    text.append("[b1 c99 d2 e3", 0, new int[] {3, 7, 10, 13}[others]);
+                    text.append(random.nextInt(60) == 0 ? "0" : "").append(']');
+                }
+            }
+            text.append(random.nextBoolean() ? " " : "\n");
+        }
+        return text.toString();
+    }
+
+    private String limitFollows() {
+        StringBuilder text = new StringBuilder();
+        int count = 57 + random.nextInt(5);
+        for (int i = 0; i < count && mended.told(0) > 0; i++) {
+            text.append(random.nextInt(300) == 0 ? "q" : "a").append(" a").append(random.nextInt(10)).append(';');
+        }
+        return text.toString();
     }
 
     private String many(java.util.function.Supplier<String> one, int most) {
