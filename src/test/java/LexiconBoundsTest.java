@@ -243,6 +243,15 @@ public final class LexiconBoundsTest {
         Check.is("LEAST of ab", x.node(2, 3), 0);
         x.forget();
         Check.is("LEAST of the root without WORDS", x.node(0, 3), NONE);
+        // of a WORD of twelve signs the root is the thirteenth NODE from its end
+        Check.fine(x, "lexicon", "abcdefghijkl 7;", 1);
+        for (int node = 0; node <= 12; node++) {
+            Check.is("LEAST of " + node, x.node(node, 3), 7);
+        }
+        x.weigh(0, 3);
+        for (int node = 0; node <= 12; node++) {
+            Check.is("LEAST of " + node, x.node(node, 3), 3);
+        }
     }
 
     /** "There are no WORDS any more, no FOLLOWS: how many there were." */
