@@ -110,11 +110,58 @@ public final class ModelTest {
             both("node", near(mended.told(1)), random.nextInt(6));
             both("child", near(mended.told(1)), letter());
         }
+        askWhole();
+        tell("reading", brokenWords());
+        askWhole();
         tell("reading", readingText());
-        for (int what = 0; what < 4; what++) {
-            both("text", what);
-            both("sentence", what);
+        askWhole();
+    }
+
+    /** WORDS, most of them broken by a NEWLINE without a hyphen, up to 40 TOKENS. */
+    private String brokenWords() {
+        StringBuilder text = new StringBuilder();
+        int tokens = 0;
+        for (int i = 0; i < 40 && tokens < 39 && text.length() < 340; i++) {
+            StringBuilder word = new StringBuilder(words.get(random.nextInt(words.size())));
+            if (random.nextInt(3) == 0) {
+                word.setCharAt(random.nextInt(word.length()), random.nextInt(3) == 0 ? '-' : '?');
+            }
+            int cut = random.nextInt(word.length());
+            if (cut > 0) {
+                word.insert(cut, '\n');
+            }
+            tokens += cut > 0 ? 2 : 1;
+            text.append(word).append(random.nextInt(4) == 0 ? " " : "\n");
         }
+        return text.toString();
+    }
+
+    /** The text MENDED and THE SENTENCE of as many TOKENS as there are, with LOST ones, with FOLLOWS and without. */
+    private void askWhole() {
+        for (int i = 0; i < 2; i++) {
+            for (int what = 0; what < 4; what++) {
+                both("text", what);
+                both("sentence", what);
+            }
+            for (int token = 0; token < mended.told(3); token++) {
+                both("lost", token, 0);
+                both("lost", token, 1);
+                both("said", token);
+            }
+            for (int k = mended.text(0); k >= 0; k--) {
+                both("at", k);
+            }
+            both("set", 5, random.nextInt(4));
+            // dear strangers, so that worse WORDS are said, down to the fourth
+            both("set", 6, random.nextBoolean() ? random.nextInt(8) : 90);
+            both("set", 0, 20 + random.nextInt(90));
+            tell("follows", many(this::oneOfFollows, 360));
+        }
+    }
+
+    private String oneOfFollows() {
+        String first = words.get(random.nextInt(words.size()));
+        return first + " " + words.get(random.nextInt(words.size())) + random.nextInt(12) + ";";
     }
 
     /** Texts that end just below, at or just beyond the most of each kind. */

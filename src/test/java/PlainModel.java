@@ -610,7 +610,10 @@ public final class PlainModel {
         return new int[] {all.get(0).word(), all.get(0).price(), next - all.get(0).price()}[what];
     }
 
-    // ---- the text MENDED: every way is tried
+    // ---- the text MENDED: every way is tried, if there are few TOKENS
+
+    /** So many TOKENS at most, that all ways and all sentences can be tried. */
+    private static final int FEW = 8;
 
     private List<Cell> joined(int token) {
         List<Cell> cells = new ArrayList<>(tokens.get(token).cells());
@@ -621,16 +624,50 @@ public final class PlainModel {
     /** A way is a row of 0 (alone) and 1 (LOST with the next). */
     private String bestWay() {
         return (String) keep("way", () -> {
+            String onward = bestWayOnward();
             List<String> ways = new ArrayList<>();
-            allWays("", 0, ways);
+            if (tokens.size() <= FEW) {
+                allWays("", 0, ways);
+            }
             String first = null;
             for (String way : ways) {
                 if (first == null || priceOfWay(way) < priceOfWay(first)) {
                     first = way;
                 }
             }
-            return first;
+            if (first != null && !first.equals(onward)) {
+                throw new IllegalStateException("the model differs from itself");
+            }
+            return onward;
         });
+    }
+
+    /** From the first TOKEN on: of all ways up to a TOKEN only the best one can be part of the best of all. */
+    private String bestWayOnward() {
+        String[] upTo = new String[tokens.size() + 2];
+        upTo[0] = "";
+        for (int token = 0; token < tokens.size(); token++) {
+            upTo[token + 1] = better(upTo[token + 1], upTo[token] + "0");
+            if (mayBeLost(token)) {
+                upTo[token + 2] = better(upTo[token + 2], upTo[token] + "1");
+            }
+        }
+        return upTo[tokens.size()];
+    }
+
+    private String better(String one, String other) {
+        if (one == null || priceOfWay(one) != priceOfWay(other)) {
+            return one == null || priceOfWay(other) < priceOfWay(one) ? other : one;
+        }
+        return one.compareTo(other) < 0 ? one : other;
+    }
+
+    private boolean mayBeLost(int token) {
+        if (token + 1 >= tokens.size() || token(token, 5) != 1 || joined(token).size() > 24) {
+            return false;
+        }
+        List<Cell> cells = joined(token);
+        return !found(cells).isEmpty() && found(cells).get(0).price() <= outside(cells);
     }
 
     private void allWays(String way, int token, List<String> ways) {
@@ -639,11 +676,8 @@ public final class PlainModel {
             return;
         }
         allWays(way + "0", token + 1, ways);
-        if (token + 1 < tokens.size() && token(token, 5) == 1) {
-            List<Cell> cells = joined(token);
-            if (cells.size() <= 24 && !found(cells).isEmpty() && found(cells).get(0).price() <= outside(cells)) {
-                allWays(way + "1", token + 2, ways);
-            }
+        if (mayBeLost(token)) {
+            allWays(way + "1", token + 2, ways);
         }
     }
 
@@ -770,7 +804,7 @@ public final class PlainModel {
         return often;
     }
 
-    // ---- THE SENTENCE: every one is tried, in order
+    // ---- THE SENTENCE: every one is tried, in order, if there are few TOKENS
 
     public int dear(int word, int next) {
         have(word, words.size());
@@ -780,11 +814,68 @@ public final class PlainModel {
 
     private int[] bestSentence() {
         return (int[]) keep("sentence", () -> {
+            int[] onward = bestSentenceOnward();
             int[][] best = new int[1][];
             int[] least = {Integer.MAX_VALUE};
-            allSentences(new int[tokens.size()], 0, 0, best, least);
-            return best[0];
+            if (tokens.size() <= FEW) {
+                allSentences(new int[tokens.size()], 0, 0, best, least);
+            }
+            if (best[0] != null && !Arrays.equals(best[0], onward)) {
+                throw new IllegalStateException("the model differs from itself");
+            }
+            return onward;
         });
+    }
+
+    /** A beginning of a sentence: which of its TOKEN's choices each one is, the WORDS, the cost. */
+    record Begun(List<Integer> choices, List<Integer> said, int cost) {
+        boolean isBetterThan(Begun other) {
+            if (other == null || cost != other.cost) {
+                return other == null || cost < other.cost;
+            }
+            for (int i = 0; i < choices.size(); i++) {
+                if (!choices.get(i).equals(other.choices.get(i))) {
+                    return choices.get(i) < other.choices.get(i);
+                }
+            }
+            return false;
+        }
+    }
+
+    /** From the first TOKEN on: of all beginnings with the same last choice only the best one is kept. */
+    private int[] bestSentenceOnward() {
+        List<Begun> kept = List.of(new Begun(List.of(), List.of(), 0));
+        for (Token token : tokens) {
+            List<Begun> next = new ArrayList<>();
+            List<Found> all = found(token.cells());
+            for (int choice = 0; choice < 4 && choice < all.size(); choice++) {
+                if (all.get(choice).price() <= outside(token.cells())) {
+                    next.add(goOn(kept, choice, all.get(choice).word(), all.get(choice).price()));
+                }
+            }
+            next.add(goOn(kept, 4, NONE, outside(token.cells())));
+            kept = next;
+        }
+        Begun best = null;
+        for (Begun one : kept) {
+            best = one.isBetterThan(best) ? one : best;
+        }
+        return best.said().stream().mapToInt(i -> i).toArray();
+    }
+
+    private Begun goOn(List<Begun> kept, int choice, int word, int price) {
+        Begun best = null;
+        for (Begun one : kept) {
+            int last = one.said().isEmpty() ? NONE : one.said().get(one.said().size() - 1);
+            List<Integer> choices = new ArrayList<>(one.choices());
+            choices.add(choice);
+            List<Integer> said = new ArrayList<>(one.said());
+            said.add(word);
+            int dear = last == NONE || word == NONE ? 0 : dear(last, word);
+            Begun longer = new Begun(choices, said, one.cost() + price + dear);
+            best = longer.isBetterThan(best) ? longer : best;
+        }
+        return best;
     }
 
     private void allSentences(int[] said, int token, int sum, int[][] best, int[] least) {
